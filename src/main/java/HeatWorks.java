@@ -1246,7 +1246,8 @@ public final class HeatWorks {
         // 6 givers, 6 takers at each place: 36 links across, 12 of givers, 6 of takers, both ways
         private static final int MOST_LINKS = 2 * (54 * Levels.MOST + 3);
         private static final int FAR = Integer.MAX_VALUE;
-        private static final int MOST_STEPS = 100000000;
+        // far above what the largest network needs: some thousands
+        private static final int MOST_STEPS = 1000000;
 
         final int[] first = new int[MOST_NODES];
         final int[] to = new int[MOST_LINKS];
@@ -1254,12 +1255,14 @@ public final class HeatWorks {
         final int[] room = new int[MOST_LINKS];
         final int[] cost = new int[MOST_LINKS];
         final int[] price = new int[MOST_NODES];
-        final int[] row = new int[MOST_NODES];
+        final int[] queue = new int[MOST_NODES];
         final boolean[] seen = new boolean[MOST_NODES];
         final int[] turn = new int[MOST_NODES];
         final int[] path = new int[MOST_NODES];
         int nodes = 0;
         int links = 0;
+        int queueBegin = 0;
+        int queueSize = 0;
 
         void clear(int firstNodes) {
             nodes = 0;
@@ -1302,12 +1305,10 @@ public final class HeatWorks {
         long cheapest(int source, int sink, int wanted) {
             long sum = 0;
             int left = wanted;
-            for (int n = 0; n < MOST_STEPS && left > 0; n++) {
+            int pushed = wanted;
+            for (int n = 0; n < MOST_STEPS && left > 0 && pushed > 0; n++) {
                 findPrices(source);
-                if (price[sink] == FAR) {
-                    return NONE;
-                }
-                int pushed = pushAll(source, sink);
+                pushed = price[sink] == FAR ? 0 : pushAll(source, sink);
                 sum += (long) pushed * price[sink];
                 left -= pushed;
             }
@@ -1321,25 +1322,36 @@ public final class HeatWorks {
                 seen[i] = false;
             }
             price[source] = 0;
-            row[0] = source;
-            int begin = 0;
-            int waiting = 1;
-            for (int n = 0; n < MOST_STEPS && waiting > 0; n++) {
-                int at = row[begin];
-                begin = begin + 1 < nodes ? begin + 1 : 0;
-                waiting--;
+            queueBegin = 0;
+            queueSize = 0;
+            enqueue(source);
+            for (int n = 0; n < MOST_STEPS && queueSize > 0; n++) {
+                int at = queue[queueBegin];
+                queueBegin = queueBegin + 1 < nodes ? queueBegin + 1 : 0;
+                queueSize--;
                 seen[at] = false;
-                for (int e = first[at]; e >= 0; e = next[e]) {
-                    int target = to[e];
-                    if (room[e] > 0 && price[at] + cost[e] < price[target]) {
-                        price[target] = price[at] + cost[e];
-                        if (!seen[target]) {
-                            seen[target] = true;
-                            row[(begin + waiting) % nodes] = target;
-                            waiting++;
-                        }
-                    }
+                lowerPricesBehind(at);
+            }
+        }
+
+        private void lowerPricesBehind(int at) {
+            int e = first[at];
+            for (int n = 0; n < links && e >= 0; n++) {
+                int target = to[e];
+                if (room[e] > 0 && price[at] + cost[e] < price[target]) {
+                    price[target] = price[at] + cost[e];
+                    enqueue(target);
                 }
+                e = next[e];
+            }
+        }
+
+        /** No node stands in the queue twice, so it never has more than all nodes. */
+        private void enqueue(int node) {
+            if (!seen[node] && queueSize < nodes) {
+                seen[node] = true;
+                queue[(queueBegin + queueSize) % nodes] = node;
+                queueSize++;
             }
         }
 
@@ -1392,11 +1404,15 @@ public final class HeatWorks {
         /** The next link of a node that has room, is on a cheapest way, and leads to a node not yet seen. */
         private int openLink(int at) {
             int e = turn[at];
-            while (e >= 0 && (room[e] == 0 || seen[to[e]] || price[at] + cost[e] != price[to[e]])) {
+            for (int n = 0; n < links && e >= 0 && !isOpen(at, e); n++) {
                 e = next[e];
             }
             turn[at] = e;
             return e;
+        }
+
+        private boolean isOpen(int at, int e) {
+            return room[e] > 0 && !seen[to[e]] && price[at] + cost[e] == price[to[e]];
         }
 
         private int pushPath(int depth) {

@@ -4,6 +4,7 @@ public final class EngineCarrierTest {
         engines();
         enginesRefused();
         engineAlone();
+        engineWithMostLevels();
         carriers();
         carriersRefused();
         carrierOfStills();
@@ -28,6 +29,21 @@ public final class EngineCarrierTest {
         Check.due("nothing is changed", x.least(3), 200);
         Check.due("no act", x.count(2), 4);
         Check.due("no level", x.levels(3), 6);
+    }
+
+    private static void engineWithMostLevels() {
+        HeatWorks x = LinesTest.full();
+        Check.due("all of it work", x.engine(5, 500, 5, 499), 0);
+        Check.due("within what goes on", x.engine(5, 500, 0, 499), 5);
+        Check.due("more than goes on", x.engine(1000, 500, 0, 499), Math.min(goesOnAt(x, 500), goesOnAt(x, 499)));
+        Check.due("far apart", x.engine(1000, 2000, 400, -200), 0);
+        Check.due("far above", x.engine(1000, 2000, 400, 1999), 0);
+        Check.due("far below", x.engine(1000, -100, 400, -200), 0);
+    }
+
+    /** What goes on at a LEVEL with nothing bought. */
+    private static long goesOnAt(HeatWorks x, int level) {
+        return x.line(3, true, level) - x.line(3, false, level);
     }
 
     private static void enginesRefused() {

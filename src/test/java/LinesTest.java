@@ -23,7 +23,31 @@ public final class LinesTest {
         bends();
         lowLevels();
         large();
+        mostLevels();
         Check.end();
+    }
+
+    /** Six HOT and six COLD streams of eight SPANS: each HOT one falls beside a COLD one, a degree above it. */
+    static HeatWorks full() {
+        HeatWorks x = new HeatWorks();
+        StreamsTest.row(x, 0, 50, 1, 60, 2, 70, 3, 80, 4, 90, 5, 100, 6, 110, 7, 120, 8);
+        StreamsTest.row(x, 1, 120, 8, 110, 7, 100, 6, 90, 5, 80, 4, 70, 3, 60, 2, 50, 1);
+        for (int i = 0; i < 6; i++) {
+            x.bent(i % 3, false, 100 + 2 * i, 0, 8);
+            x.bent(i % 3, true, 791 + 2 * i, 1, 8);
+        }
+        return x;
+    }
+
+    private static void mostLevels() {
+        HeatWorks x = full();
+        Check.due("levels", x.levels(3), 108);
+        Check.due("highest", x.level(3, 0), 791);
+        Check.due("lowest", x.level(3, 107), 100);
+        bothLeast(x, 3, 0, 0);
+        x.gap(12);
+        Check.due("levels", x.levels(3), 108);
+        bothLeast(x, 3, 6 * 8, 6 * 8);
     }
 
     private static void look(HeatWorks x, int work, int[] levels, long[] goes) {

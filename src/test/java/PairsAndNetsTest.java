@@ -51,6 +51,8 @@ public final class PairsAndNetsTest {
         Check.due("heat 100000001", x.meet(0, 0, 1, 100000001), 3);
         Check.due("3 ahead of 6", x.meet(0, 1, 0, 0), 3);
         Check.due("sides", x.meet(0, 1, 0, 1), 6);
+        Check.due("hot and hot", x.meet(0, 0, 0, 1), 6);
+        Check.due("cold and cold", x.meet(0, 1, 1, 1), 6);
         Check.due("bought heat", x.meet(0, 2, 1, 1), 6);
         Check.due("bought cold", x.meet(0, 0, 3, 1), 6);
         Check.due("none came", x.count(5), 0);

@@ -10,6 +10,7 @@ public final class PriceTest {
         dearInAllCheaper();
         askedTooOften();
         large();
+        mostPlaces();
         Check.end();
     }
 
@@ -152,6 +153,19 @@ public final class PriceTest {
         x.undo();
         Check.due("price 41", x.price(), -2);
         Check.due("of another object", new HeatWorks().price(), 0);
+    }
+
+    private static void mostPlaces() {
+        HeatWorks x = LinesTest.full();
+        Check.due("each beside its own", x.price(), 0);
+        for (int i = 0; i < 12; i += 2) {
+            for (int j = 1; j < 12; j += 2) {
+                x.forbid(j, i, j != i + 1);
+            }
+        }
+        Check.due("each beside its own alone", x.price(), 0);
+        x.forbid(5, 4, true);
+        Check.due("one of them forbidden", x.price(), -1);
     }
 
     private static void large() {

@@ -115,6 +115,9 @@ public final class SheetsTest {
         for (int i = 0; i < 4; i++) {
             Check.due("copied " + i, x.number(1, i), want[i]);
         }
+        Check.due("no number too many", x.copy(0, 3, 1, 0, 1), 0);
+        Check.due("copied", x.number(1, 0), 13);
+        Check.due("not copied", x.number(1, 1), 0);
         Check.due("onto itself, up", x.copy(0, 0, 0, 1, 4), 0);
         int[] up = {10, 10, 11, 12, 13};
         for (int i = 0; i < 5; i++) {
@@ -126,7 +129,7 @@ public final class SheetsTest {
             Check.due("down " + i, x.number(0, i), down[i]);
         }
         Check.due("none of them", x.copy(0, 5, 1, 4, 0), 0);
-        Check.due("acts", x.count(2), 11);
+        Check.due("acts", x.count(2), 12);
         x.cell(0, 0, 99);
         Check.due("the copy stays", x.number(1, 2), 11);
     }

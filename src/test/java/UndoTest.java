@@ -120,7 +120,7 @@ public final class UndoTest {
     private static void keptActs() {
         HeatWorks x = new HeatWorks();
         for (int n = 0; n < 210; n++) {
-            x.gap(n % 200 + 1);
+            x.gap(n % 190 + 1);
             Check.due("kept", x.count(2), Math.min(n + 1, 200));
         }
         for (int n = 0; n < 200; n++) {

@@ -12,6 +12,7 @@ public final class VerdictTest {
         thousandths();
         coldFromItsEnd();
         large();
+        mostBends();
         Check.end();
     }
 
@@ -237,6 +238,20 @@ public final class VerdictTest {
         x.meet(0, 1, 0, 5);
         Check.due("the span told last comes first", x.closest(0, 0), 10000);
         Check.due("then the first", x.closest(0, 1), 40000);
+    }
+
+    /** All SPANS of a HOT and a COLD stream, with no two bends at one place; the colder end is the closest. */
+    private static void mostBends() {
+        HeatWorks x = new HeatWorks();
+        StreamsTest.row(x, 0, 10, 10, 10, 10, 10, 10, 10, 10, 10, 10, 10, 10, 10, 10, 10, 10);
+        StreamsTest.row(x, 1, 5, 30, 10, 10, 10, 10, 10, 10, 10, 10, 10, 10, 10, 10, 5, 10);
+        x.bent(0, true, 200, 0, 8);
+        x.bent(0, false, 99, 1, 8);
+        x.meet(0, 0, 1, 800);
+        Check.due("closest", x.closest(0, 0), 21000);
+        x.undo();
+        x.meet(0, 0, 1, 799);
+        Check.due("closest a unit ahead of the end", x.closest(0, 0), 21066);
     }
 
     private static void large() {
