@@ -59,10 +59,10 @@ public final class HeatWorks {
     private int redoable = 0;
     private final Cascade cascade = new Cascade();
     private final Judge judge = new Judge();
+    // Their rows are large: made here, once for an object, they are used again by every call.
+    private final Heaps heaps = new Heaps();
+    private final Pricing pricing = new Pricing();
     private final long[] found = {NONE, NONE, NONE, NONE};
-    // These two are large, and many objects never need them: they are made when first asked for.
-    private Heaps heaps = null;
-    private Pricing pricing = null;
     private int pricesAsked = 0;
 
     public HeatWorks() {
@@ -397,9 +397,6 @@ public final class HeatWorks {
             return TOO_OFTEN;
         }
         pricesAsked++;
-        if (pricing == null) {
-            pricing = new Pricing();
-        }
         return pricing.leastSum(now());
     }
 
@@ -409,9 +406,6 @@ public final class HeatWorks {
         boolean whole = k == NONE && cascade.placeOfPinch(0) == NONE;
         if (at == NONE && !whole) {
             return NONE;
-        }
-        if (heaps == null) {
-            heaps = new Heaps();
         }
         heaps.clear();
         heapStreams(at, below);

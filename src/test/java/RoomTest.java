@@ -1,15 +1,30 @@
 import java.lang.management.ManagementFactory;
 import java.util.Random;
 
-/** All calls of a run live in one room, and no call throws, whatever its arguments and the state. */
+/**
+ * A run is one object and 512 calls on it. What it makes is counted as what the constructor makes, once, and
+ * what the dearest call makes, for every call; and no call throws, whatever its arguments and the state.
+ */
 public final class RoomTest {
-    // some 600,000 objects and 7.3 million fields are allowed: this is far below
-    private static final long MOST_BYTES = 4000000;
-
-    private static long[] before = new long[1];
+    // A field or an element has a byte at least, an object sixteen: so much makes no more than the room has.
+    private static final long ROOM = 7300000;
+    private static final long OBJECTS = 600000;
+    private static final long CALLS = 512;
+    // four calls each, behind the thirty that fill the works
+    private static final int ROUNDS = 120;
+    private static final long MOST_OF_CONSTRUCTOR = 1000000;
+    private static final long MOST_OF_ACT = 2000;
+    // questions make nothing, but the machine may make something of its own the first times
+    private static final long MOST_OF_QUESTION = 500;
+    private static final int TIMES = 3;
+    // kept, since asking for it makes objects too
+    private static final com.sun.management.ThreadMXBean COUNTER =
+            (com.sun.management.ThreadMXBean) ManagementFactory.getThreadMXBean();
 
     public static void main(String[] args) {
-        runs();
+        for (int seed = 0; seed < 40; seed++) {
+            room(seed);
+        }
         for (int seed = 0; seed < 60; seed++) {
             wild(seed);
         }
@@ -17,21 +32,17 @@ public final class RoomTest {
     }
 
     private static long bytes() {
-        return ((com.sun.management.ThreadMXBean) ManagementFactory.getThreadMXBean()).getCurrentThreadAllocatedBytes();
-    }
-
-    private static void begin() {
-        before[0] = bytes();
-    }
-
-    private static void end(String run) {
-        long used = bytes() - before[0];
-        Check.holds(run + " used " + used + " bytes", used <= MOST_BYTES);
+        return COUNTER.getCurrentThreadAllocatedBytes();
     }
 
     /** Twelve streams of eight spans each, of which no two bend at one LEVEL. */
     private static HeatWorks full() {
         HeatWorks x = new HeatWorks();
+        fill(x);
+        return x;
+    }
+
+    private static void fill(HeatWorks x) {
         x.sheet(0, 2, 16);
         for (int i = 0; i < 16; i++) {
             x.cell(0, i, i % 2 == 0 ? 150 : 900 + i);
@@ -39,36 +50,71 @@ public final class RoomTest {
         for (int i = 0; i < 12; i++) {
             x.bent(i % 3, i % 2 == 0, i % 2 == 0 ? 1900 - i : 600 + i, 0, 8);
         }
-        return x;
     }
 
-    private static void runs() {
-        begin();
-        HeatWorks x = full();
-        for (int i = 0; i < 40; i++) {
-            x.price();
+    /** The least of several like runs, so that what the machine makes for itself is not counted. */
+    private static void room(int seed) {
+        long[] least = measured(seed);
+        for (int n = 1; n < TIMES; n++) {
+            long[] again = measured(seed);
+            for (int i = 0; i < least.length; i++) {
+                least[i] = Math.min(least[i], again[i]);
+            }
         }
-        for (int i = 0; i < 400; i++) {
-            x.fewest(i % 3 - 1, i % 2 == 0);
+        String run = "run " + seed;
+        long all = least[0] + CALLS * Math.max(least[1], least[2]);
+        Check.holds(run + ": its constructor makes " + least[0] + " bytes", least[0] <= MOST_OF_CONSTRUCTOR);
+        Check.holds(run + ": an act makes " + least[1] + " bytes", least[1] <= MOST_OF_ACT);
+        Check.holds(run + ": a question makes " + least[2] + " bytes", least[2] <= MOST_OF_QUESTION);
+        Check.holds(run + ": all makes " + all + " bytes", all <= ROOM && all / 16 <= OBJECTS);
+    }
+
+    /** Bytes that one object's constructor makes, the dearest of its acts, the dearest of its questions. */
+    private static long[] measured(int seed) {
+        Random r = new Random(seed);
+        long[] most = new long[3];
+        long begin = bytes();
+        HeatWorks x = new HeatWorks();
+        most[0] = bytes() - begin;
+        if (seed % 2 == 1) {
+            fill(x);
+            Check.due("levels", x.levels(3), 108);
         }
-        Check.due("levels", x.levels(3), 108);
-        end("prices and fewest");
-        begin();
-        x = full();
-        for (int i = 0; i < 480; i++) {
-            x.meet(0, 0, 1, 1);
-            x.verdict(0);
-            x.copy(0, 0, 0, 1, 15);
-            x.empty(0);
-            x.engine(100, 100, 50, 50);
-            x.carrier(0, 1, 900);
+        for (int i = 0; i < ROUNDS; i++) {
+            begin = bytes();
+            dearAct(i, x);
+            most[1] = Math.max(most[1], bytes() - begin);
+            begin = bytes();
+            dearQuestion(i, x);
+            most[2] = Math.max(most[2], bytes() - begin);
+            begin = bytes();
+            wildAct(r, x);
+            most[1] = Math.max(most[1], bytes() - begin);
+            begin = bytes();
+            wildQuestion(r, x);
+            most[2] = Math.max(most[2], bytes() - begin);
         }
-        end("acts");
-        begin();
-        for (int i = 0; i < 512; i++) {
-            new HeatWorks();
+        return most;
+    }
+
+    private static void dearAct(int i, HeatWorks x) {
+        switch (i % 4) {
+            case 0 -> x.copy(0, 0, 0, 1, 15);
+            case 1 -> x.sheet(1, 2, 16);
+            case 2 -> x.forbid(0, 1, i % 8 == 2);
+            default -> x.meet(0, 0, 1, 1);
         }
-        end("new objects");
+    }
+
+    private static void dearQuestion(int i, HeatWorks x) {
+        switch (i % 6) {
+            case 0 -> x.price();
+            case 1 -> x.fewest(i / 6 % 3 - 1, i / 6 % 2 == 0);
+            case 2 -> x.verdict(0);
+            case 3 -> x.engine(100, 100, 50, 50);
+            case 4 -> x.carrier(0, 1, 900);
+            default -> x.closest(0, 0);
+        }
     }
 
     private static int any(Random r) {
