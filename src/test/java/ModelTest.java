@@ -1,7 +1,8 @@
 import java.util.Random;
 
-/** Runs of calls by chance (always the same ones) on the class and on the plain model of the document. */
+/** Runs of 512 calls by chance (always the same ones) on the class and on the plain model of the document. */
 public final class ModelTest {
+    private static final int CALLS = 512;
     private final HeatWorks works = new HeatWorks();
     private final Model model = new Model();
     private final Random random;
@@ -9,6 +10,7 @@ public final class ModelTest {
     private final int top;
     private final int flowTop;
     private final int streamsWanted;
+    private int calls = 0;
 
     private ModelTest(int seed) {
         random = new Random(seed);
@@ -31,7 +33,7 @@ public final class ModelTest {
         if (random.nextInt(4) > 0) {
             setUp();
         }
-        for (int call = 0; call < 500; call++) {
+        while (calls < CALLS) {
             if (random.nextInt(100) < (model.count(0) < streamsWanted ? 60 : 35)) {
                 act();
             } else {
@@ -108,6 +110,7 @@ public final class ModelTest {
     }
 
     private void due(String call, long got, long want) {
+        calls++;
         Check.due(name + call, got, want);
     }
 
