@@ -123,7 +123,7 @@ final class Bounds {
         refused(sentence, Bounds::some, call, status);
     }
 
-    /** The call is an act: it answers 0, it is one more that can be undone, none can be redone, and undoing it brings all back. */
+    /** The call is an act: it answers 0, it is one more to be undone, none is to be redone, and undone it is gone. */
     static void accepted(String sentence, Maker maker, Call call) {
         HeatWorks x = maker.make();
         int acts = x.count(2);

@@ -62,7 +62,7 @@ public final class BoundsUndoTest {
         Check.holds("as a new one", Seen.state(x).equals(empty));
     }
 
-    /** Each kind of act on a works that has something of all: undone, it is as if it had not been; redone, as if it were done. */
+    /** Each kind of act, on a works that has something of all; each changes something there. */
     private static final Bounds.Call[] ACTS = {
         x -> x.sheet(0, 2, 9), x -> x.cell(0, 0, 77), x -> x.tear(1), x -> x.copy(2, 0, 2, 3, 2),
         x -> x.plain(0, 99, 44, 3), x -> x.still(1, false, 66, 9), x -> x.bent(0, true, 140, 0, 2),
@@ -153,8 +153,8 @@ public final class BoundsUndoTest {
     }
 
     private static void refusedOnesKeepRedo() {
-        Bounds.Call[] refused = {x -> x.sheet(8, 2, 9), x -> x.cell(4, 0, 77), x -> x.tear(8), x -> x.copy(2, 0, 2, 3, 9),
-            x -> x.plain(0, 44, 44, 3), x -> x.still(3, false, 66, 9), x -> x.bent(0, true, 140, 4, 2),
+        Bounds.Call[] refused = {x -> x.sheet(8, 2, 9), x -> x.cell(4, 0, 77), x -> x.tear(8),
+            x -> x.copy(2, 0, 2, 3, 9), x -> x.plain(0, 44, 44, 3), x -> x.still(3, false, 66, 9), x -> x.bent(0, true, 140, 4, 2),
             x -> x.bought(true, 200, 0), x -> x.gap(201), x -> x.forbid(1, 0, true), x -> x.meet(0, 0, 1, 0),
             x -> x.empty(4)};
         HeatWorks x = Bounds.some();
