@@ -154,9 +154,9 @@ public final class BoundsUndoTest {
 
     private static void refusedOnesKeepRedo() {
         Bounds.Call[] refused = {x -> x.sheet(8, 2, 9), x -> x.cell(4, 0, 77), x -> x.tear(8),
-            x -> x.copy(2, 0, 2, 3, 9), x -> x.plain(0, 44, 44, 3), x -> x.still(3, false, 66, 9), x -> x.bent(0, true, 140, 4, 2),
-            x -> x.bought(true, 200, 0), x -> x.gap(201), x -> x.forbid(1, 0, true), x -> x.meet(0, 0, 1, 0),
-            x -> x.empty(4)};
+            x -> x.copy(2, 0, 2, 3, 9), x -> x.plain(0, 44, 44, 3), x -> x.still(3, false, 66, 9),
+            x -> x.bent(0, true, 140, 4, 2), x -> x.bought(true, 200, 0), x -> x.gap(201), x -> x.forbid(1, 0, true),
+            x -> x.meet(0, 0, 1, 0), x -> x.empty(4)};
         HeatWorks x = Bounds.some();
         for (int i = 0; i < refused.length; i++) {
             Check.holds("refused " + i, refused[i].on(x) > 0);
